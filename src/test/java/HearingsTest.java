@@ -10,6 +10,7 @@ public final class HearingsTest {
         singles();
         pairs();
         relays();
+        relayByTheFirstTongue();
         Due.end();
     }
 
@@ -208,5 +209,27 @@ public final class HearingsTest {
         team("14: the fit one", x, 0, 0, 2, NONE, NONE);
         x.bar(2, 7, true);
         Due.is("13: relays again", x.teams(0), 4);
+    }
+
+    /** Person 0 first, tongue 1 between; the teams are looked at without asking how many there are. */
+    private static void relayByTheFirstTongue() {
+        HearingDesk x = new HearingDesk();
+        int[][] papers = {{0, 0}, {0, 1}, {0, 9}, {4, 1}, {4, 9}, {4, 2}};
+        for (int p = 0; p < 5; p++) {
+            x.person(0);
+        }
+        for (int[] paper : papers) {
+            x.paper(paper[0], paper[1], 2, 0, 999);
+        }
+        x.hearing(3, 0, 0, 10, 0, 2, 2);
+        x.hearing(3, 0, 0, 10, 0, 5, 2);
+        team("14: relay by 1", x, 0, 0, 0, 4, 1);
+        team("14: no such", x, 1, 0, NONE, NONE, NONE);
+        x.withdraw(1, 0);
+        x.move(0, 1, 0);
+        team("14: relay by 9", x, 0, 0, 0, 4, 9);
+        Due.is("13: one relay", x.teams(0), 1);
+        x.withdraw(2, 0);
+        Due.is("13: the hearing's own tongue is not between", x.teams(0), 0);
     }
 }

@@ -10,6 +10,7 @@ public final class PlanTest {
         throughAMiddleOne();
         keeping();
         keepingIsBelowWithout();
+        keepingThenJourneys();
         leastJourneys();
         firstInOrder();
         seatsAndTurns();
@@ -165,6 +166,22 @@ public final class PlanTest {
         Due.is("17: 1 in the first", x.seat(0, 0), 1);
         Due.is("17: 0 in the second", x.seat(1, 0), 0);
         planned("16: one change", x, 2, 0, 1, 0);
+    }
+
+    /** Who sat is barred: whoever comes is one change, and the nearer one comes. */
+    private static void keepingThenJourneys() {
+        HearingDesk x = desk(2);
+        x.person(1);
+        fit(x, 2);
+        x.hearing(0, 0, 0, 60, 0, 1, 3);
+        x.plan(0, false);
+        Due.is("17: 0 sits", x.seat(0, 0), 0);
+        x.bar(0, 0, true);
+        x.hearing(1, 0, 300, 60, 1, 1, 3);
+        Due.is("15: both", x.plan(0, true), 0);
+        Due.is("17: 1 is near", x.seat(0, 0), 1);
+        Due.is("17: 2 is near", x.seat(1, 0), 2);
+        planned("16: equal changes", x, 2, 0, 1, 0);
     }
 
     private static void leastJourneys() {
