@@ -24,19 +24,9 @@ public final class AskedEdgesTest {
         Due.end();
     }
 
-    /** Two persons, two hearings. */
-    private static HearingDesk desk() {
-        HearingDesk x = new HearingDesk();
-        x.person(0);
-        x.person(0);
-        x.hearing(0, 500, 0, 60, 0, 1, 1);
-        x.hearing(0, 500, 0, 60, 0, 1, 1);
-        return x;
-    }
-
     /** "ASKED: 60 at most, 0, 1, .."; "NONE: 60": what is refused takes no number */
     private static void sixtyAsked() {
-        HearingDesk x = desk();
+        HearingDesk x = Desks.twoAndTwo();
         for (int i = 0; i < 60; i++) {
             Due.is("25: refused ahead of " + i, x.ask(2, 0, 10), NONE);
             Due.is("25: asked " + i, x.ask(i % 2, i / 2 % 2, 10), i);
@@ -49,12 +39,12 @@ public final class AskedEdgesTest {
         Due.is("27: the last", x.known(59, 10, 0), 1);
         Due.is("27: none behind it", x.known(60, 999, 0), NONE);
         Due.is("28: the last", x.refusals(1, 10), 1);
-        Twins.refused("25: a 61st", Desks::full, full -> full.ask(0, 0, 999), NONE);
+        Twins.unchanged("25: a 61st", Desks::full, full -> full.ask(0, 0, 999), NONE);
     }
 
     /** "or a DAY ahead of that of the latest ASKED" */
     private static void aheadOfTheLatest() {
-        HearingDesk x = desk();
+        HearingDesk x = Desks.twoAndTwo();
         Due.is("25: the first on any day", x.ask(0, 0, 500), 0);
         Due.is("25: a day ahead", x.ask(1, 1, 499), NONE);
         Due.is("25: the same day", x.ask(1, 1, 500), 1);
@@ -64,24 +54,24 @@ public final class AskedEdgesTest {
         Due.is("25: a day ahead of the last", x.ask(1, 1, 998), NONE);
         Due.is("25: the last day again", x.ask(1, 1, 999), 4);
         Due.is("29: five", x.count(4), 5);
-        Due.is("25: the first on day 0", desk().ask(0, 0, 0), 0);
+        Due.is("25: the first on day 0", Desks.twoAndTwo().ask(0, 0, 0), 0);
     }
 
     /** The same: what was refused was not ASKED, and the DAY of an answer is none of asking */
     private static void refusedIsNotTheLatest() {
-        HearingDesk x = desk();
+        HearingDesk x = Desks.twoAndTwo();
         x.ask(0, 0, 5);
         Due.is("25: no such person", x.ask(0, 2, 900), NONE);
         Due.is("25: no such hearing", x.ask(2, 0, 900), NONE);
         Due.is("25: no such day", x.ask(0, 0, 1000), NONE);
         x.answer(0, 800, true, 0);
         Due.is("25: day 5 is as late as any", x.ask(0, 0, 5), 1);
-        Twins.refused("25: ahead of the latest", Desks::busy, y -> y.ask(0, 0, Desks.LATEST_ASKED_DAY - 1), NONE);
+        Twins.unchanged("25: ahead of the latest", Desks::busy, y -> y.ask(0, 0, Desks.LATEST_ASKED_DAY - 1), NONE);
     }
 
     /** "A PERSON is ASKED for a HEARING on a DAY": the same again, on a DAY behind the HEARING's, for a CANCELLED one */
     private static void askedForAny() {
-        HearingDesk x = desk();
+        HearingDesk x = Desks.twoAndTwo();
         Due.is("25: once", x.ask(0, 0, 500), 0);
         Due.is("25: again", x.ask(0, 0, 500), 1);
         Due.is("25: behind its day", x.ask(0, 0, 501), 2);
@@ -92,7 +82,7 @@ public final class AskedEdgesTest {
 
     /** "false, and nothing happens: none such, answered already": what was said first stays */
     private static void answeredOnce() {
-        HearingDesk x = desk();
+        HearingDesk x = Desks.twoAndTwo();
         x.ask(0, 0, 5);
         x.ask(0, 1, 5);
         Due.is("26: none such", x.answer(2, 5, false, 0), false);
@@ -105,26 +95,26 @@ public final class AskedEdgesTest {
         Due.is("27: why", x.known(0, 9, 4), 3);
         Due.is("26: the other one", x.answer(1, 9, true, 4), true);
         Due.is("27: yes", x.known(1, 9, 3), 1);
-        Twins.refused("26: already", Desks::busy, y -> Twins.bit(y.answer(0, 8, true, 5)), 0);
+        Twins.unchanged("26: already", Desks::busy, y -> Twins.bit(y.answer(0, 8, true, 5)), 0);
     }
 
     /** "the DAY not from that of the asking to 999" */
     private static void answeredFromTheAsking() {
         for (int asked : new int[] {0, 1, 500, 999}) {
-            HearingDesk x = desk();
+            HearingDesk x = Desks.twoAndTwo();
             x.ask(0, 0, asked);
             Due.is("26: a day ahead of " + asked, x.answer(0, asked - 1, false, 0), false);
             Due.is("26: day 1000", x.answer(0, 1000, false, 0), false);
             Due.is("28: none yet", x.refusals(0, 999), 0);
             Due.is("26: the same day", x.answer(0, asked, false, 0), true);
             Due.is("28: one", x.refusals(0, asked), 1);
-            HearingDesk y = desk();
+            HearingDesk y = Desks.twoAndTwo();
             y.ask(0, 0, asked);
             Due.is("26: the last day", y.answer(0, 999, false, 0), true);
             Due.is("28: on the last day", y.refusals(0, 999), 1);
             Due.is("28: a day ahead", y.refusals(0, 998), 0);
         }
-        HearingDesk x = desk();
+        HearingDesk x = Desks.twoAndTwo();
         x.ask(0, 0, 5);
         x.ask(0, 0, 9);
         Due.is("26: from its own asking, not the latest", x.answer(0, 5, true, 0), true);
@@ -133,7 +123,7 @@ public final class AskedEdgesTest {
     /** "why not 0 to 9": what was refused can be answered still */
     private static void answerOutOfBounds() {
         for (int why = -1; why <= 10; why++) {
-            HearingDesk x = desk();
+            HearingDesk x = Desks.twoAndTwo();
             x.ask(0, 0, 5);
             boolean isOne = why >= 0 && why <= 9;
             Due.is("26: why " + why, x.answer(0, 5, true, why), isOne);
@@ -145,7 +135,7 @@ public final class AskedEdgesTest {
 
     /** "3: 1 yes, 0 no, NONE not answered, 4: why (NONE)": with either answer any why */
     private static void yesOrNo() {
-        HearingDesk x = desk();
+        HearingDesk x = Desks.twoAndTwo();
         for (int i = 0; i < 3; i++) {
             x.ask(0, 0, 0);
         }
@@ -160,7 +150,7 @@ public final class AskedEdgesTest {
 
     /** "KNOWN on a DAY: those asked by then"; "NONE if it is not KNOWN then" */
     private static void knownFromTheAsking() {
-        HearingDesk x = desk();
+        HearingDesk x = Desks.twoAndTwo();
         x.ask(1, 0, 0);
         x.ask(0, 1, 500);
         x.ask(1, 1, 999);
@@ -178,7 +168,7 @@ public final class AskedEdgesTest {
 
     /** "answers by then" */
     private static void knownAnswer() {
-        HearingDesk x = desk();
+        HearingDesk x = Desks.twoAndTwo();
         x.ask(0, 0, 5);
         x.answer(0, 9, true, 7);
         int[][] due = {{4, NONE, NONE, NONE}, {5, 0, NONE, NONE}, {8, 0, NONE, NONE}, {9, 0, 1, 7}, {10, 0, 1, 7}};
@@ -191,7 +181,7 @@ public final class AskedEdgesTest {
 
     /** "or for another what"; of none that was ASKED */
     private static void knownParts() {
-        HearingDesk x = desk();
+        HearingDesk x = Desks.twoAndTwo();
         x.ask(1, 1, 5);
         x.answer(0, 5, true, 6);
         int[] due = {NONE, 1, 1, 5, 1, 6, NONE};
@@ -207,7 +197,7 @@ public final class AskedEdgesTest {
 
     /** "How many KNOWN on a DAY .. said no": each from the DAY of its answer on */
     private static void refusalsByADay() {
-        HearingDesk x = desk();
+        HearingDesk x = Desks.twoAndTwo();
         for (int i = 0; i < 4; i++) {
             x.ask(0, i % 2, i);
         }

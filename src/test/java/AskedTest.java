@@ -12,17 +12,8 @@ public final class AskedTest {
         Due.end();
     }
 
-    private static HearingDesk desk() {
-        HearingDesk x = new HearingDesk();
-        x.person(0);
-        x.person(0);
-        x.hearing(0, 500, 0, 60, 0, 1, 1);
-        x.hearing(0, 500, 0, 60, 0, 1, 1);
-        return x;
-    }
-
     private static void asks() {
-        HearingDesk x = desk();
+        HearingDesk x = Desks.twoAndTwo();
         Due.is("25: no hearing", x.ask(2, 0, 5), NONE);
         Due.is("25: no hearing -1", x.ask(-1, 0, 5), NONE);
         Due.is("25: no person", x.ask(0, 2, 5), NONE);
@@ -40,7 +31,7 @@ public final class AskedTest {
     }
 
     private static void manyAsked() {
-        HearingDesk x = desk();
+        HearingDesk x = Desks.twoAndTwo();
         for (int i = 0; i < 60; i++) {
             Due.is("25: asked " + i, x.ask(i % 2, i / 2 % 2, i), i);
         }
@@ -52,7 +43,7 @@ public final class AskedTest {
     }
 
     private static void answers() {
-        HearingDesk x = desk();
+        HearingDesk x = Desks.twoAndTwo();
         x.ask(0, 0, 5);
         x.ask(0, 0, 5);
         Due.is("26: none such", x.answer(2, 5, true, 0), false);
@@ -70,7 +61,7 @@ public final class AskedTest {
     }
 
     private static void known() {
-        HearingDesk x = desk();
+        HearingDesk x = Desks.twoAndTwo();
         x.ask(1, 0, 5);
         x.answer(0, 8, false, 3);
         x.ask(0, 1, 6);
@@ -95,7 +86,7 @@ public final class AskedTest {
     }
 
     private static void refusals() {
-        HearingDesk x = desk();
+        HearingDesk x = Desks.twoAndTwo();
         Due.is("28: none asked", x.refusals(NONE, 0), 0);
         x.ask(0, 0, 1);
         x.ask(0, 1, 2);
@@ -117,7 +108,7 @@ public final class AskedTest {
     }
 
     private static void counts() {
-        HearingDesk x = desk();
+        HearingDesk x = Desks.twoAndTwo();
         x.paper(0, 1, 1, 0, 0);
         x.paper(0, 1, 1, 0, 0);
         x.paper(0, 1, 1, 0, 0);

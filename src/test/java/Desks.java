@@ -1,4 +1,4 @@
-/** Desks with something in every part of them, so that a call which should change nothing can be seen to. */
+/** Desks to test on; busy, full and crowded have so much in every part that a call can be seen to change nothing. */
 final class Desks {
     static final String FEES = "from 0 rate 3 60;from 0 rate 2 90;from 0 least 45;from 0 way 3;from 0 pair 75;"
             + "from 0 relay 150;from 0 late 600 50";
@@ -82,6 +82,31 @@ final class Desks {
             x.plan(day, false);
         }
         x.cancel(7, 0);
+        return x;
+    }
+
+    /** So many persons of town 0, each of grade 3 in the tongues 0 and 1 on all days. */
+    static HearingDesk fitOnes(int persons) {
+        HearingDesk x = new HearingDesk();
+        for (int p = 0; p < persons; p++) {
+            x.person(0);
+            fit(x, p);
+        }
+        return x;
+    }
+
+    static void fit(HearingDesk x, int person) {
+        x.paper(person, 0, 3, 0, 999);
+        x.paper(person, 1, 3, 0, 999);
+    }
+
+    /** Two persons, and two hearings of day 500 to ask them for. */
+    static HearingDesk twoAndTwo() {
+        HearingDesk x = new HearingDesk();
+        x.person(0);
+        x.person(0);
+        x.hearing(0, 500, 0, 60, 0, 1, 1);
+        x.hearing(0, 500, 0, 60, 0, 1, 1);
         return x;
     }
 

@@ -29,6 +29,13 @@ final class Due {
         }
     }
 
+    /** What planned() answers for 0 to 3. */
+    static void planned(String label, HearingDesk x, int... want) {
+        for (int what = 0; what < 4; what++) {
+            is(label + ", planned " + what, x.planned(what), want[what]);
+        }
+    }
+
     /** Puts a text behind the tape, byte by byte. */
     static void type(HearingDesk x, String text) {
         int before = x.count(5);

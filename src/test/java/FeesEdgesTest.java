@@ -25,6 +25,7 @@ public final class FeesEdgesTest {
         blanksAlone();
         blanksBetween();
         textOfSixHundred();
+        textOfMostClauses();
         bytesAtTheStart();
         bytesBehindAClause();
         bytesForANumber();
@@ -47,6 +48,7 @@ public final class FeesEdgesTest {
         journeysOfOneNotCancelled();
         seatsAsTheyWereThen();
         feeOfItsDay();
+        eachKindOfItsDay();
         feeOfNone();
         Due.end();
     }
@@ -113,7 +115,7 @@ public final class FeesEdgesTest {
             Due.is("29: behind " + before, x.count(5), comes ? before + 20 : before);
             Due.is("22: behind " + before, x.fees(), comes ? 1 + 4 * (before + 19) : 0);
         }
-        Twins.refused("20: a full tape", Desks::full, x -> x.feed(0, 0, 0, 0, 0), NONE);
+        Twins.unchanged("20: a full tape", Desks::full, x -> x.feed(0, 0, 0, 0, 0), NONE);
     }
 
     /** "The TAPE has its first n bytes alone: n" */
@@ -234,6 +236,19 @@ public final class FeesEdgesTest {
         fault(Desks.filled("from 0 way 1;", 586) + "from 0 way 101", 2, 597);
         fault(Desks.filled("from 0 way", 599) + "x", 1, 599);
         Due.is("23: a number at the end", reads(Desks.filled("from 0 way", 599) + "5", 1).tells(0, WAY), 5);
+    }
+
+    /** "CLAUSE { ; CLAUSE }": as many as 600 bytes can hold, and the last one counts as any other */
+    private static void textOfMostClauses() {
+        StringBuilder text = new StringBuilder("from1way1");
+        for (int i = 2; i <= 60; i++) {
+            text.append(";from").append(i == 60 ? 9 : 1).append("way").append(i % 10);
+        }
+        HearingDesk x = reads(text.toString(), 60);
+        Due.is("23: ahead of the first", x.tells(0, WAY), 0);
+        Due.is("23: the last but one", x.tells(8, WAY), 9);
+        Due.is("23: the last", x.tells(9, WAY), 0);
+        fault(text + ";", 1, 600);
     }
 
     /** "1 a byte .. that can't stand there": each byte at the start */
@@ -425,7 +440,8 @@ public final class FeesEdgesTest {
 
     /** "without: 0, of pair and relay 100": ahead of the first DAY too */
     private static void without() {
-        HearingDesk x = reads("from 5 least 1; from 5 way 1; from 5 pair 51; from 5 relay 52; from 5 late 1 1; from 5 rate 1 1", 6);
+        HearingDesk x = reads("from 5 least 1; from 5 way 1; from 5 pair 51; from 5 relay 52; from 5 late 1 1; "
+                + "from 5 rate 1 1", 6);
         int[] ahead = {0, 0, 100, 100, 0, 0};
         int[] then = {1, 1, 51, 52, 1, 1};
         for (int what = 0; what < 6; what++) {
@@ -575,6 +591,34 @@ public final class FeesEdgesTest {
         Due.is("24: on day 999", x.fee(0, 999), 180);
         Due.fees(x, "from 0 rate 3 120");
         Due.is("24: by another text", x.fee(0, 999), 120);
+    }
+
+    /** "On a DAY of each KIND": the FEE is by the CLAUSES of that DAY, to the DAY */
+    private static void eachKindOfItsDay() {
+        String rate = "from 0 rate 3 60; from 0 late 1000 100; ";
+        String[] kinds = {"from 10 rate 3 120", "from 10 least 200", "from 10 pair 50", "from 10 way 1", "from 10 late 500 100",
+            "from 10 late 1000 50"};
+        long[] then = {200, 200, 50, 112, 100, 100};
+        long[] cancelled = {200, 200, 50, 100, 0, 50};
+        for (int i = 0; i < kinds.length; i++) {
+            HearingDesk x = desk();
+            x.hearing(0, 9, 0, 100, 1, 1, 3);
+            x.hearing(0, 10, 0, 100, 1, 1, 3);
+            x.plan(9, false);
+            x.plan(10, false);
+            Due.is("22: " + kinds[i], Due.fees(x, rate + kinds[i]), 0);
+            Due.is("24: on 9, " + kinds[i], x.fee(0, 9), 100);
+            Due.is("24: on 10, " + kinds[i], x.fee(0, 10), then[i]);
+            x.cancel(0, 500);
+            x.cancel(1, 500);
+            Due.is("24: cancelled on 9, " + kinds[i], x.fee(0, 9), 100);
+            Due.is("24: cancelled on 10, " + kinds[i], x.fee(0, 10), cancelled[i]);
+        }
+        HearingDesk x = seated(60, 2, rate + "from 10 relay 50");
+        x.move(0, 9, 0);
+        Due.is("24: relay on 9", x.fee(3, 9), 60);
+        x.move(0, 10, 0);
+        Due.is("24: relay on 10", x.fee(3, 10), 30);
     }
 
     /** "FEE of a PERSON on a DAY; NONE without such" */

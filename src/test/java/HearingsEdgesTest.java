@@ -17,6 +17,7 @@ public final class HearingsEdgesTest {
         cancelledStays();
         cancelledOnce();
         fitByBothGrades();
+        bothOfAPairFit();
         fitOnItsDay();
         fitIfNotBarred();
         longAboveNinety();
@@ -88,7 +89,7 @@ public final class HearingsEdgesTest {
         Due.is("10: a 25th, one is cancelled", x.hearing(0, 500, 0, 10, 0, 1, 1), NONE);
         Due.is("10: 24", x.count(2), 24);
         Due.is("10: none on that day", x.plan(500, false) + x.planned(0), 0);
-        Twins.refused("10: a 25th of a full desk", Desks::full, full -> full.hearing(0, 500, 0, 10, 0, 1, 1), NONE);
+        Twins.unchanged("10: a 25th of a full desk", Desks::full, full -> full.hearing(0, 500, 0, 10, 0, 1, 1), NONE);
     }
 
     /** "4 at most of one DAY"; "NONE: 24, 4 of that DAY" */
@@ -103,7 +104,7 @@ public final class HearingsEdgesTest {
             x.plan(day, false);
             Due.is("10: four to plan", x.planned(0), 4);
         }
-        Twins.refused("10: a fifth", Desks::crowded, x -> x.hearing(0, 7, 0, 10, 0, 1, 1), NONE);
+        Twins.unchanged("10: a fifth", Desks::crowded, x -> x.hearing(0, 7, 0, 10, 0, 1, 1), NONE);
     }
 
     /** "4 at most of one DAY that are not CANCELLED" */
@@ -142,12 +143,12 @@ public final class HearingsEdgesTest {
             Due.is("11: the first minute", x.move(0, 0, 0), true);
             Due.is("11: ahead of it", x.move(0, 0, -1), false);
         }
-        Twins.refused("11: beyond the day", Desks::busy, x -> Twins.bit(x.move(0, 500, 1381)), 0);
+        Twins.unchanged("11: beyond the day", Desks::busy, x -> Twins.bit(x.move(0, 500, 1381)), 0);
     }
 
     /** "4 of that DAY (but for it)": from another DAY */
     private static void movedToAFullDay() {
-        Twins.refused("11: to a day of four", Desks::crowded, x -> Twins.bit(x.move(8, 7, 1300)), 0);
+        Twins.unchanged("11: to a day of four", Desks::crowded, x -> Twins.bit(x.move(8, 7, 1300)), 0);
         HearingDesk x = Desks.crowded();
         Due.is("11: to a day of four", x.move(8, 7, 1300), false);
         Due.is("11: it has its journeys where it was", x.journeys(0, 9), 120);
@@ -169,7 +170,7 @@ public final class HearingsEdgesTest {
 
     /** "false, and nothing happens: none such, CANCELLED" */
     private static void cancelledStays() {
-        Twins.refused("11: a cancelled one", Desks::busy, x -> Twins.bit(x.move(Desks.CANCELLED_HEARING, 999, 0)), 0);
+        Twins.unchanged("11: a cancelled one", Desks::busy, x -> Twins.bit(x.move(Desks.CANCELLED_HEARING, 999, 0)), 0);
         HearingDesk x = Desks.busy();
         long before = x.fee(0, 0);
         Due.is("11: a cancelled one", x.move(Desks.CANCELLED_HEARING, 1, 0), false);
@@ -192,7 +193,7 @@ public final class HearingsEdgesTest {
         Due.is("12: already, late this time", x.cancel(1, 0), false);
         Due.is("12: fee as before", x.fee(1, 0), 30);
         Due.is("12: three as before", x.count(3), 3);
-        Twins.refused("12: already", Desks::busy, y -> Twins.bit(y.cancel(Desks.CANCELLED_HEARING, 700)), 0);
+        Twins.unchanged("12: already", Desks::busy, y -> Twins.bit(y.cancel(Desks.CANCELLED_HEARING, 700)), 0);
     }
 
     /** "whose GRADES in 0 and its TONGUE are at least its grade" */
@@ -210,6 +211,18 @@ public final class HearingsEdgesTest {
         HearingDesk x = desk(3, row(0, 0, 5), row(1, 6, 5));
         x.hearing(0, 0, 0, 10, 0, 6, 1);
         Due.is("13: no paper for the one or the other", x.teams(0), 0);
+    }
+
+    /** "LONG ones ..: two FIT PERSONS": one of the four GRADES is 1 less */
+    private static void bothOfAPairFit() {
+        for (int tongue = 1; tongue <= 9; tongue += 4) {
+            for (int less = 0; less <= 4; less++) {
+                HearingDesk x = desk(2, row(0, 0, less == 1 ? 2 : 3), row(0, tongue, less == 2 ? 2 : 3),
+                        row(1, 0, less == 3 ? 2 : 3), row(1, tongue, less == 4 ? 2 : 3));
+                x.hearing(0, 0, 0, 91, 0, tongue, 3);
+                Due.is("13: pair for " + tongue + ", less is " + less, x.teams(0), less == 0 ? 1 : 0);
+            }
+        }
     }
 
     /** "at least its grade on its DAY" */

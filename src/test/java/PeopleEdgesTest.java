@@ -174,7 +174,7 @@ public final class PeopleEdgesTest {
             Due.is("4: persons", x.count(0), p + 1);
         }
         Due.is("4: person 4 is there", x.grade(4, 0, 0), 0);
-        Twins.refused("4: a sixth", Desks::full, full -> full.person(0), NONE);
+        Twins.unchanged("4: a sixth", Desks::full, full -> full.person(0), NONE);
     }
 
     /** "NONE: there are 40, or something is not as told": what is refused takes no number, what has ended keeps its own */
@@ -182,14 +182,16 @@ public final class PeopleEdgesTest {
         HearingDesk x = withPersons(5);
         for (int i = 0; i < 40; i++) {
             Due.is("5: refused ahead of " + i, x.paper(5, 0, 1, 0, 0), NONE);
-            Due.is("5: paper " + i, x.paper(i % 5, i % 10, 1 + i % 5, i, 999), i);
+            Due.is("5: paper " + i, x.paper(i % 5, i / 4, 1 + i % 5, i, 999), i);
         }
+        Due.is("5: the last one holds", x.grade(4, 9, 39), 5);
+        Due.is("5: from its first day on", x.grade(4, 9, 8), 0);
         x.withdraw(0, 0);
         Due.is("5: papers that ended count", x.paper(0, 0, 1, 0, 0), NONE);
         Due.is("5: forty", x.count(1), 40);
         Due.is("5: the last one is there", x.withdraw(39, 999), true);
         Due.is("5: none behind it", x.withdraw(40, 999), false);
-        Twins.refused("5: a 41st", Desks::full, full -> full.paper(0, 9, 5, 0, 999), NONE);
+        Twins.unchanged("5: a 41st", Desks::full, full -> full.paper(0, 9, 5, 0, 999), NONE);
     }
 
     /** "(the first DAY behind the last, too)" */

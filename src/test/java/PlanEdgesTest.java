@@ -22,6 +22,7 @@ public final class PlanEdgesTest {
         changesOfPersons();
         changesOfSwappedSeats();
         leastJourneys();
+        leastJourneysOfFewestChanges();
         firstTeam();
         noneIsLast();
         teamsAreSeats();
@@ -36,30 +37,9 @@ public final class PlanEdgesTest {
         Due.end();
     }
 
-    /** So many persons of town 0, each of grade 3 in the tongues 0 and 1 on all days. */
-    private static HearingDesk desk(int persons) {
-        HearingDesk x = new HearingDesk();
-        for (int p = 0; p < persons; p++) {
-            x.person(0);
-            fit(x, p);
-        }
-        return x;
-    }
-
-    private static void fit(HearingDesk x, int person) {
-        x.paper(person, 0, 3, 0, 999);
-        x.paper(person, 1, 3, 0, 999);
-    }
-
-    /** A hearing of case 0 and day 0 that those of desk() are fit for. */
+    /** A hearing of case 0 and day 0 that those of Desks.fitOnes are fit for. */
     private static int hear(HearingDesk x, int begin, int length, int town) {
         return x.hearing(0, 0, begin, length, town, 1, 3);
-    }
-
-    private static void planned(String label, HearingDesk x, int... want) {
-        for (int what = 0; what < 4; what++) {
-            Due.is(label + ", planned " + what, x.planned(what), want[what]);
-        }
     }
 
     /** The first seats of hearings 0, 1, .. */
@@ -70,11 +50,11 @@ public final class PlanEdgesTest {
     }
 
     /** One person and two hearings with so many minutes between: whether both are his, in either order of numbers. */
-    private static void between(String label, HearingDesk x, int free, int towns, boolean holds) {
-        hear(x, 400, 60, 1);
-        hear(x, 460 + free, 60, towns);
+    private static void between(String label, HearingDesk x, int free, int town, boolean holds) {
+        hear(x, 400, 50, 1);
+        hear(x, 450 + free, 80, town);
         Due.is(label + ", " + free + " between", x.plan(0, false), holds ? 0 : 1);
-        x.move(0, 0, 460 + free);
+        x.move(0, 0, 480 + free);
         x.move(1, 0, 400);
         Due.is(label + ", " + free + " between, the other way", x.plan(0, false), holds ? 0 : 1);
     }
@@ -83,7 +63,7 @@ public final class PlanEdgesTest {
     private static void restBetween() {
         for (int rest : new int[] {0, 1, 30, 119, 120}) {
             for (int free = rest - 1; free <= rest + 1; free++) {
-                HearingDesk x = desk(1);
+                HearingDesk x = Desks.fitOnes(1);
                 x.rest(rest);
                 between("15: rest " + rest, x, free, 1, free >= rest);
             }
@@ -96,7 +76,7 @@ public final class PlanEdgesTest {
         for (int[] n : restsAndWays) {
             int needed = Math.max(n[0], n[1]);
             for (int free = needed - 1; free <= needed + 1; free++) {
-                HearingDesk x = desk(1);
+                HearingDesk x = Desks.fitOnes(1);
                 x.rest(n[0]);
                 x.way(2, 1, n[1]);
                 between("15: rest " + n[0] + ", way " + n[1], x, free, 2, free >= needed);
@@ -107,16 +87,16 @@ public final class PlanEdgesTest {
     /** "30 at first"; "60 MINUTES until told" */
     private static void restAndWayUntilTold() {
         for (int free = 29; free <= 30; free++) {
-            between("15: rest at first", desk(1), free, 1, free == 30);
+            between("15: rest at first", Desks.fitOnes(1), free, 1, free == 30);
         }
         for (int free = 59; free <= 60; free++) {
-            between("15: way at first", desk(1), free, 5, free == 60);
+            between("15: way at first", Desks.fitOnes(1), free, 5, free == 60);
         }
     }
 
     /** "by begin (of one begin by numbers)": two of one begin never HOLD, though there be no REST and no WAY */
     private static void oneBegin() {
-        HearingDesk x = desk(1);
+        HearingDesk x = Desks.fitOnes(1);
         x.rest(0);
         x.way(1, 2, 0);
         hear(x, 0, 10, 1);
@@ -136,7 +116,7 @@ public final class PlanEdgesTest {
 
     /** "each next one .. the one ahead": the WAY from one that is not next does not matter */
     private static void wayFromTheOneAhead() {
-        HearingDesk x = desk(1);
+        HearingDesk x = Desks.fitOnes(1);
         x.rest(0);
         x.way(1, 3, 300);
         x.way(1, 2, 10);
@@ -154,7 +134,7 @@ public final class PlanEdgesTest {
 
     /** "the WAYS from his TOWN to the first, from each to the next, from the last one back" */
     private static void journeysThereAndBack() {
-        HearingDesk x = desk(1);
+        HearingDesk x = Desks.fitOnes(1);
         x.way(0, 1, 1);
         x.way(1, 2, 20);
         x.way(2, 3, 300);
@@ -173,12 +153,19 @@ public final class PlanEdgesTest {
         hear(x, 700, 10, 0);
         x.plan(0, false);
         Due.is("19: the last one at home", x.journeys(0, 0), 1 + 20 + 300 + 50 + 0);
-        planned("16: the same", x, 4, 0, 0, 371);
+        Due.planned("16: the same", x, 4, 0, 0, 371);
+        x.cancel(3, 0);
+        x.way(3, 4, 2);
+        x.way(4, 0, 33);
+        hear(x, 700, 10, 4);
+        x.plan(0, false);
+        Due.is("19: four hearings", x.journeys(0, 0), 1 + 20 + 300 + 2 + 33);
+        Due.planned("16: the same of four", x, 4, 0, 0, 356);
     }
 
     /** "by begin (of one begin by numbers)": SEATS that came by moves need not HOLD, but have JOURNEYS */
     private static void journeysOfOneBegin() {
-        HearingDesk x = desk(1);
+        HearingDesk x = Desks.fitOnes(1);
         x.way(0, 1, 10);
         x.way(0, 2, 40);
         x.way(1, 2, 20);
@@ -205,17 +192,17 @@ public final class PlanEdgesTest {
 
     /** "to each of its HEARINGS (not CANCELLED) a TEAM or none" */
     private static void notCancelled() {
-        HearingDesk x = desk(1);
+        HearingDesk x = Desks.fitOnes(1);
         hear(x, 0, 60, 0);
         hear(x, 0, 60, 0);
         Due.is("15: two at once", x.plan(0, false), 1);
         x.cancel(0, 0);
         Due.is("15: one is cancelled", x.plan(0, false), 0);
-        planned("16: one alone", x, 1, 0, 0, 0);
+        Due.planned("16: one alone", x, 1, 0, 0, 0);
         seats("17: the other has its seat too", x, 0, 0);
         x.cancel(1, 0);
         Due.is("15: both are", x.plan(0, false), 0);
-        planned("16: none", x, 0, 0, 0, 0);
+        Due.planned("16: none", x, 0, 0, 0, 0);
         seats("17: both have seats still", x, 0, 0);
     }
 
@@ -228,13 +215,13 @@ public final class PlanEdgesTest {
         }
         Due.is("15: those of the day behind", x.plan(0, true), 0);
         Due.is("15: no persons", x.plan(1, true), 4);
-        planned("16: no persons", x, 4, 4, 0, 0);
+        Due.planned("16: no persons", x, 4, 4, 0, 0);
         Due.is("15: those of the day ahead", x.plan(2, true), 0);
     }
 
     /** The most HEARINGS of a DAY, and the most TEAMS of each */
     private static void fourToPlan() {
-        HearingDesk x = desk(5);
+        HearingDesk x = Desks.fitOnes(5);
         for (int h = 0; h < 4; h++) {
             hear(x, 300 * h, 100, 0);
         }
@@ -247,13 +234,13 @@ public final class PlanEdgesTest {
             x.move(h, 0, 300);
         }
         Due.is("15: four pairs at once", x.plan(0, false), 2);
-        planned("16: four at once", x, 4, 2, 6, 0);
+        Due.planned("16: four at once", x, 4, 2, 6, 0);
         seats("17: the first two", x, 0, 2, NONE, NONE);
     }
 
     /** "Best: the fewest HEARINGS without": though JOURNEYS be more, and HEARINGS of lesser numbers have none */
     private static void fewestWithout() {
-        HearingDesk x = desk(1);
+        HearingDesk x = Desks.fitOnes(1);
         x.rest(0);
         hear(x, 100, 60, 0);
         x.hearing(1, 0, 30, 10, 1, 1, 3);
@@ -263,14 +250,14 @@ public final class PlanEdgesTest {
         hear(x, 150, 10, 1);
         Due.is("15: the far ones", x.plan(0, true), 1);
         seats("17: the far ones", x, NONE, 0, 0);
-        planned("16: the far ones", x, 3, 1, 1, 200);
+        Due.planned("16: the far ones", x, 3, 1, 1, 200);
     }
 
     /** "of these, if it is to KEEP, the fewest CHANGES": ahead of JOURNEYS and of the order; else they don't matter */
     private static void changesIfToKeep() {
-        HearingDesk x = desk(2);
+        HearingDesk x = Desks.fitOnes(2);
         x.person(1);
-        fit(x, 2);
+        Desks.fit(x, 2);
         x.way(0, 1, 300);
         hear(x, 0, 60, 1);
         x.bar(0, 0, true);
@@ -281,49 +268,49 @@ public final class PlanEdgesTest {
         x.bar(2, 0, false);
         Due.is("15: to keep", x.plan(0, true), 0);
         seats("17: 1 is kept", x, 1);
-        planned("16: to keep", x, 1, 0, 0, 600);
+        Due.planned("16: to keep", x, 1, 0, 0, 600);
         Due.is("15: not to keep", x.plan(0, false), 0);
         seats("17: 2 is at home", x, 2);
-        planned("16: not to keep", x, 1, 0, 1, 0);
+        Due.planned("16: not to keep", x, 1, 0, 1, 0);
     }
 
     /** "the fewest HEARINGS without; of these, if it is to KEEP, the fewest CHANGES" */
     private static void changesBelowWithout() {
-        HearingDesk x = desk(2);
+        HearingDesk x = Desks.fitOnes(2);
         x.hearing(0, 0, 0, 60, 0, 1, 3);
         x.plan(0, true);
         x.hearing(1, 0, 0, 60, 0, 1, 3);
         x.bar(1, 1, true);
         Due.is("15: both have one", x.plan(0, true), 0);
         seats("17: 0 goes to 1", x, 1, 0);
-        planned("16: a change", x, 2, 0, 1, 0);
+        Due.planned("16: a change", x, 2, 0, 1, 0);
         x.bar(1, 0, true);
         Due.is("15: one of them", x.plan(0, true), 1);
         seats("17: 0 is kept in 1", x, NONE, 0);
-        planned("16: a change again", x, 2, 1, 1, 0);
+        Due.planned("16: a change again", x, 2, 1, 1, 0);
     }
 
     /** "CHANGES: PERSONS of the SEATS as they were who don't sit in that HEARING any more" */
     private static void changesOfPersons() {
-        HearingDesk x = desk(4);
+        HearingDesk x = Desks.fitOnes(4);
         hear(x, 0, 100, 0);
         x.plan(0, true);
-        planned("16: who came is no change", x, 1, 0, 0, 0);
+        Due.planned("16: who came is no change", x, 1, 0, 0, 0);
         x.bar(1, 0, true);
         x.plan(0, true);
-        planned("16: one of two", x, 1, 0, 1, 0);
+        Due.planned("16: one of two", x, 1, 0, 1, 0);
         Due.is("17: first", x.seat(0, 0), 0);
         Due.is("17: second", x.seat(0, 1), 2);
         x.bar(1, 0, false);
         x.bar(0, 0, true);
         x.bar(2, 0, true);
         x.plan(0, true);
-        planned("16: both", x, 1, 0, 2, 0);
+        Due.planned("16: both", x, 1, 0, 2, 0);
         x.bar(1, 0, true);
         x.plan(0, true);
-        planned("16: both, and none comes", x, 1, 1, 2, 0);
+        Due.planned("16: both, and none comes", x, 1, 1, 2, 0);
         x.plan(0, true);
-        planned("16: none was there", x, 1, 1, 0, 0);
+        Due.planned("16: none was there", x, 1, 1, 0, 0);
     }
 
     /** "who don't sit in that HEARING any more": in another SEAT of it is none, in another HEARING is one */
@@ -342,15 +329,15 @@ public final class PlanEdgesTest {
         x.plan(1, true);
         Due.is("17: X is 1", x.seat(0, 0), 1);
         Due.is("17: Y is 0", x.seat(0, 1), 0);
-        planned("16: the same two", x, 1, 0, 0, 0);
-        HearingDesk y = desk(2);
+        Due.planned("16: the same two", x, 1, 0, 0, 0);
+        HearingDesk y = Desks.fitOnes(2);
         y.hearing(0, 0, 0, 60, 0, 1, 3);
         y.hearing(1, 0, 0, 60, 0, 1, 3);
         y.plan(0, true);
         y.bar(0, 0, true);
         y.plan(0, true);
         seats("17: in each other's", y, 1, 0);
-        planned("16: in each other's", y, 2, 0, 2, 0);
+        Due.planned("16: in each other's", y, 2, 0, 2, 0);
     }
 
     /** "of these the least sum of JOURNEYS": by a minute, and ahead of the order */
@@ -358,13 +345,13 @@ public final class PlanEdgesTest {
         HearingDesk x = new HearingDesk();
         for (int p = 0; p < 3; p++) {
             x.person(p);
-            fit(x, p);
+            Desks.fit(x, p);
         }
         hear(x, 0, 60, 5);
         x.way(1, 5, 59);
         Due.is("15: one of three", x.plan(0, false), 0);
         seats("17: 1 is nearer", x, 1);
-        planned("16: 1 is nearer", x, 1, 0, 0, 118);
+        Due.planned("16: 1 is nearer", x, 1, 0, 0, 118);
         x.way(2, 5, 58);
         x.plan(0, false);
         seats("17: 2 is nearer", x, 2);
@@ -375,12 +362,36 @@ public final class PlanEdgesTest {
         hear(x, 600, 60, 2);
         x.plan(0, false);
         // One goes to both at 5, there and back once, and 2 is at home for the third.
-        planned("16: by the sum", x, 3, 0, 0, 116);
+        Due.planned("16: by the sum", x, 3, 0, 0, 116);
+    }
+
+    /** "if it is to KEEP, the fewest CHANGES ..; of these the least sum of JOURNEYS; of these the first" */
+    private static void leastJourneysOfFewestChanges() {
+        HearingDesk x = Desks.fitOnes(3);
+        x.person(1);
+        Desks.fit(x, 3);
+        x.person(1);
+        Desks.fit(x, 4);
+        x.bar(3, 0, true);
+        x.bar(4, 0, true);
+        hear(x, 0, 100, 1);
+        x.plan(0, true);
+        Due.planned("16: 0 and 1 come", x, 1, 0, 0, 240);
+        x.bar(1, 0, true);
+        x.bar(3, 0, false);
+        x.bar(4, 0, false);
+        Due.is("15: another for 1", x.plan(0, true), 0);
+        Due.is("17: 0 is kept", x.seat(0, 0), 0);
+        Due.is("17: 3 is at home, and ahead of 4", x.seat(0, 1), 3);
+        Due.planned("16: one change", x, 1, 0, 1, 120);
+        Due.is("15: not to keep", x.plan(0, false), 0);
+        Due.is("17: both at home", x.seat(0, 0), 3);
+        Due.planned("16: not to keep", x, 1, 0, 1, 0);
     }
 
     /** "the HEARING of least number has the TEAM that is first in order": by numbers, not by begin */
     private static void firstTeam() {
-        HearingDesk x = desk(3);
+        HearingDesk x = Desks.fitOnes(3);
         hear(x, 100, 60, 0);
         hear(x, 90, 60, 0);
         hear(x, 80, 60, 0);
@@ -391,12 +402,12 @@ public final class PlanEdgesTest {
         seats("17: kept", x, 0, 1, 2);
         x.plan(0, false);
         seats("17: not to keep", x, 0, 0, 1);
-        planned("16: two changes", x, 3, 0, 2, 0);
+        Due.planned("16: two changes", x, 3, 0, 2, 0);
     }
 
     /** "(none is last)" */
     private static void noneIsLast() {
-        HearingDesk x = desk(1);
+        HearingDesk x = Desks.fitOnes(1);
         for (int h = 0; h < 4; h++) {
             hear(x, 100 - 10 * h, 60, 0);
         }
@@ -409,7 +420,7 @@ public final class PlanEdgesTest {
 
     /** "The TEAMS are the SEATS then": of those of the DAY, with none too; others stay as they are */
     private static void teamsAreSeats() {
-        HearingDesk x = desk(2);
+        HearingDesk x = Desks.fitOnes(2);
         hear(x, 0, 91, 0);
         x.hearing(1, 1, 0, 91, 0, 1, 3);
         x.plan(0, false);
@@ -428,7 +439,7 @@ public final class PlanEdgesTest {
 
     /** "(SEATS stay when HEARINGS move, or are CANCELLED.)" */
     private static void seatsStay() {
-        HearingDesk x = desk(2);
+        HearingDesk x = Desks.fitOnes(2);
         hear(x, 0, 91, 0);
         hear(x, 300, 91, 0);
         x.plan(0, false);
@@ -439,42 +450,42 @@ public final class PlanEdgesTest {
             Due.is("17: second of " + h, x.seat(h, 1), 1);
         }
         x.plan(0, false);
-        planned("16: none there", x, 0, 0, 0, 0);
+        Due.planned("16: none there", x, 0, 0, 0, 0);
         Due.is("17: the moved one's as before", x.seat(0, 1), 1);
         Due.is("17: the cancelled one's as before", x.seat(1, 1), 1);
         x.bar(1, 0, true);
         x.plan(999, true);
-        planned("16: its seats moved along", x, 1, 1, 2, 0);
+        Due.planned("16: its seats moved along", x, 1, 1, 2, 0);
         Due.is("17: none", x.seat(0, 0), NONE);
     }
 
     /** "NONE ahead of any" */
     private static void plannedAheadOfAny() {
-        HearingDesk x = desk(1);
+        HearingDesk x = Desks.fitOnes(1);
         hear(x, 0, 60, 1);
         x.plan(-1, true);
         x.plan(1000, false);
-        planned("16: refused alone", x, NONE, NONE, NONE, NONE);
+        Due.planned("16: refused alone", x, NONE, NONE, NONE, NONE);
         x.plan(999, false);
-        planned("16: one", x, 0, 0, 0, 0);
+        Due.planned("16: one", x, 0, 0, 0, 0);
     }
 
     /** "Of the latest plan() that was not NONE"; "CHANGES (also without keep)"; "or for another what" */
     private static void plannedOfTheLatest() {
-        HearingDesk x = desk(1);
+        HearingDesk x = Desks.fitOnes(1);
         hear(x, 0, 60, 1);
         x.hearing(0, 1, 0, 60, 1, 1, 4);
         x.plan(0, false);
-        planned("16: day 0", x, 1, 0, 0, 120);
+        Due.planned("16: day 0", x, 1, 0, 0, 120);
         x.plan(1000, false);
         x.plan(-1, false);
-        planned("16: day 0 still", x, 1, 0, 0, 120);
+        Due.planned("16: day 0 still", x, 1, 0, 0, 120);
         x.plan(1, true);
-        planned("16: day 1", x, 1, 1, 0, 0);
+        Due.planned("16: day 1", x, 1, 1, 0, 0);
         x.bar(0, 0, true);
-        planned("16: as it was laid out", x, 1, 1, 0, 0);
+        Due.planned("16: as it was laid out", x, 1, 1, 0, 0);
         x.plan(0, false);
-        planned("16: a change without keep", x, 1, 1, 1, 0);
+        Due.planned("16: a change without keep", x, 1, 1, 1, 0);
         Due.is("16: what 4", x.planned(4), NONE);
         Due.is("16: what -1", x.planned(-1), NONE);
     }
@@ -495,7 +506,7 @@ public final class PlanEdgesTest {
     /** "spans of 30 MINUTES (the last one perhaps less), the first PERSON's, the second's, and so on" */
     private static void turnsOfLongOnes() {
         for (int length : new int[] {91, 119, 120, 121, 239, 240}) {
-            HearingDesk x = desk(3);
+            HearingDesk x = Desks.fitOnes(3);
             x.bar(1, 0, true);
             hear(x, 0, length, 0);
             x.plan(0, false);
@@ -519,7 +530,7 @@ public final class PlanEdgesTest {
             Due.is("18: of a relay at " + m, x.turn(2, m), m < 30 ? 0 : NONE);
         }
         Due.is("18: of one, beyond", x.turn(0, 60), NONE);
-        HearingDesk y = desk(1);
+        HearingDesk y = Desks.fitOnes(1);
         y.paper(0, 7, 3, 0, 999);
         y.person(0);
         y.paper(1, 7, 3, 0, 999);
@@ -535,7 +546,7 @@ public final class PlanEdgesTest {
 
     /** "NONE without SEATS" */
     private static void turnsWithoutSeats() {
-        HearingDesk x = desk(1);
+        HearingDesk x = Desks.fitOnes(1);
         hear(x, 0, 91, 0);
         hear(x, 0, 60, 0);
         for (int round = 0; round < 2; round++) {
@@ -551,7 +562,7 @@ public final class PlanEdgesTest {
 
     /** "JOURNEYS of a PERSON on a DAY by the SEATS now (HEARINGS not CANCELLED)" */
     private static void journeysBySeatsNow() {
-        HearingDesk x = desk(2);
+        HearingDesk x = Desks.fitOnes(2);
         hear(x, 0, 60, 1);
         Due.is("19: ahead of a plan", x.journeys(0, 0), 0);
         x.plan(0, false);

@@ -19,49 +19,28 @@ public final class PlanTest {
         Due.end();
     }
 
-    /** So many persons of town 0 of grade 3 in the tongues 0 and 1. */
-    private static HearingDesk desk(int persons) {
-        HearingDesk x = new HearingDesk();
-        for (int p = 0; p < persons; p++) {
-            x.person(0);
-            fit(x, p);
-        }
-        return x;
-    }
-
-    private static void fit(HearingDesk x, int p) {
-        x.paper(p, 0, 3, 0, 999);
-        x.paper(p, 1, 3, 0, 999);
-    }
-
-    private static void planned(String label, HearingDesk x, int... want) {
-        for (int what = 0; what < 4; what++) {
-            Due.is(label + ", planned " + what, x.planned(what), want[what]);
-        }
-    }
-
     private static void days() {
-        HearingDesk x = desk(1);
+        HearingDesk x = Desks.fitOnes(1);
         Due.is("15: no day -1", x.plan(-1, false), NONE);
         Due.is("15: no day 1000", x.plan(1000, true), NONE);
         Due.is("16: ahead of any", x.planned(0), NONE);
         Due.is("15: no hearings", x.plan(999, true), 0);
-        planned("16: no hearings", x, 0, 0, 0, 0);
+        Due.planned("16: no hearings", x, 0, 0, 0, 0);
         x.hearing(0, 0, 0, 10, 1, 1, 3);
         x.hearing(0, 1, 0, 10, 1, 1, 4);
         Due.is("15: none can", x.plan(1, false), 1);
-        planned("16: none can", x, 1, 1, 0, 0);
+        Due.planned("16: none can", x, 1, 1, 0, 0);
         Due.is("15: one can", x.plan(0, false), 0);
-        planned("16: one can", x, 1, 0, 0, 120);
+        Due.planned("16: one can", x, 1, 0, 0, 120);
         Due.is("17: another day's stays as it is", x.seat(1, 0), NONE);
         Due.is("15: none again", x.plan(1000, false), NONE);
-        planned("16: the latest that was not NONE", x, 1, 0, 0, 120);
+        Due.planned("16: the latest that was not NONE", x, 1, 0, 0, 120);
         Due.is("16: another what", x.planned(4), NONE);
         Due.is("16: another what -1", x.planned(-1), NONE);
     }
 
     private static void fewestWithout() {
-        HearingDesk x = desk(1);
+        HearingDesk x = Desks.fitOnes(1);
         x.rest(0);
         x.hearing(0, 0, 0, 60, 0, 1, 3);
         x.hearing(0, 0, 0, 30, 0, 1, 3);
@@ -75,11 +54,11 @@ public final class PlanTest {
         Due.is("17: 0 is first", x.seat(0, 0), 0);
         Due.is("17: cancelled ones keep their seats", x.seat(1, 0), 0);
         Due.is("17: 2 is without now", x.seat(2, 0), NONE);
-        planned("16: changes also without keep", x, 2, 1, 1, 0);
+        Due.planned("16: changes also without keep", x, 2, 1, 1, 0);
     }
 
     private static void rests() {
-        HearingDesk x = desk(1);
+        HearingDesk x = Desks.fitOnes(1);
         x.hearing(0, 0, 0, 60, 0, 1, 3);
         x.hearing(0, 0, 90, 60, 0, 1, 3);
         Due.is("15: just the rest", x.plan(0, false), 0);
@@ -97,21 +76,21 @@ public final class PlanTest {
     }
 
     private static void ways() {
-        HearingDesk x = desk(1);
+        HearingDesk x = Desks.fitOnes(1);
         x.rest(0);
         x.way(1, 2, 45);
         x.hearing(0, 0, 0, 60, 2, 1, 3);
         x.hearing(0, 0, 105, 60, 1, 1, 3);
         Due.is("15: just the way", x.plan(0, false), 0);
-        planned("16: journeys", x, 2, 0, 0, 165);
+        Due.planned("16: journeys", x, 2, 0, 0, 165);
         x.way(1, 2, 46);
         Due.is("15: a longer way", x.plan(0, false), 1);
-        planned("16: one alone", x, 2, 1, 1, 120);
+        Due.planned("16: one alone", x, 2, 1, 1, 120);
     }
 
     /** From 1 to 3 is far, but by way of 2 the chain holds. */
     private static void throughAMiddleOne() {
-        HearingDesk x = desk(1);
+        HearingDesk x = Desks.fitOnes(1);
         x.rest(0);
         x.way(1, 3, 300);
         x.way(1, 2, 0);
@@ -121,11 +100,11 @@ public final class PlanTest {
         Due.is("15: too far", x.plan(0, false), 1);
         x.hearing(0, 0, 70, 40, 2, 1, 3);
         Due.is("15: by a town between", x.plan(0, false), 0);
-        planned("16: all three", x, 3, 0, 0, 120);
+        Due.planned("16: all three", x, 3, 0, 0, 120);
     }
 
     private static void keeping() {
-        HearingDesk x = desk(2);
+        HearingDesk x = Desks.fitOnes(2);
         x.bar(0, 5, true);
         x.hearing(5, 0, 0, 60, 1, 1, 3);
         x.plan(0, false);
@@ -133,28 +112,28 @@ public final class PlanTest {
         x.bar(0, 5, false);
         Due.is("15: keep", x.plan(0, true), 0);
         Due.is("17: 1 stays", x.seat(0, 0), 1);
-        planned("16: keep", x, 1, 0, 0, 120);
+        Due.planned("16: keep", x, 1, 0, 0, 120);
         Due.is("15: without keep", x.plan(0, false), 0);
         Due.is("17: 0 is first", x.seat(0, 0), 0);
-        planned("16: without keep", x, 1, 0, 1, 120);
+        Due.planned("16: without keep", x, 1, 0, 1, 120);
         x.person(1);
-        fit(x, 2);
+        Desks.fit(x, 2);
         Due.is("15: keep ahead of journeys", x.plan(0, true), 0);
         Due.is("17: 0 stays", x.seat(0, 0), 0);
         x.plan(0, false);
         Due.is("17: 2 has no journeys", x.seat(0, 0), 2);
-        planned("16: no journeys", x, 1, 0, 1, 0);
+        Due.planned("16: no journeys", x, 1, 0, 1, 0);
         x.move(0, 9, 0);
         x.bar(2, 5, true);
         x.bar(1, 5, true);
         x.bar(0, 5, true);
         Due.is("15: nobody on the new day", x.plan(9, true), 1);
-        planned("16: seats went along", x, 1, 1, 1, 0);
+        Due.planned("16: seats went along", x, 1, 1, 1, 0);
         Due.is("17: nobody", x.seat(0, 0), NONE);
     }
 
     private static void keepingIsBelowWithout() {
-        HearingDesk x = desk(2);
+        HearingDesk x = Desks.fitOnes(2);
         x.hearing(0, 0, 0, 60, 0, 1, 3);
         x.hearing(1, 0, 30, 60, 0, 1, 3);
         x.bar(1, 0, true);
@@ -165,14 +144,14 @@ public final class PlanTest {
         Due.is("15: none is left", x.plan(0, true), 0);
         Due.is("17: 1 in the first", x.seat(0, 0), 1);
         Due.is("17: 0 in the second", x.seat(1, 0), 0);
-        planned("16: one change", x, 2, 0, 1, 0);
+        Due.planned("16: one change", x, 2, 0, 1, 0);
     }
 
     /** Who sat is barred: whoever comes is one change, and the nearer one comes. */
     private static void keepingThenJourneys() {
-        HearingDesk x = desk(2);
+        HearingDesk x = Desks.fitOnes(2);
         x.person(1);
-        fit(x, 2);
+        Desks.fit(x, 2);
         x.hearing(0, 0, 0, 60, 0, 1, 3);
         x.plan(0, false);
         Due.is("17: 0 sits", x.seat(0, 0), 0);
@@ -181,29 +160,29 @@ public final class PlanTest {
         Due.is("15: both", x.plan(0, true), 0);
         Due.is("17: 1 is near", x.seat(0, 0), 1);
         Due.is("17: 2 is near", x.seat(1, 0), 2);
-        planned("16: equal changes", x, 2, 0, 1, 0);
+        Due.planned("16: equal changes", x, 2, 0, 1, 0);
     }
 
     private static void leastJourneys() {
         HearingDesk x = new HearingDesk();
         x.person(0);
         x.person(1);
-        fit(x, 0);
-        fit(x, 1);
+        Desks.fit(x, 0);
+        Desks.fit(x, 1);
         x.hearing(0, 0, 0, 60, 1, 1, 3);
         x.hearing(0, 0, 300, 60, 0, 1, 3);
         Due.is("15: each at home", x.plan(0, false), 0);
-        planned("16: no journeys", x, 2, 0, 0, 0);
+        Due.planned("16: no journeys", x, 2, 0, 0, 0);
         Due.is("17: 1 at home", x.seat(0, 0), 1);
         Due.is("17: 0 at home", x.seat(1, 0), 0);
         x.bar(0, 0, true);
         x.plan(0, false);
-        planned("16: there and back", x, 2, 0, 1, 120);
+        Due.planned("16: there and back", x, 2, 0, 1, 120);
         Due.is("17: 1 in both", x.seat(1, 0), 1);
     }
 
     private static void firstInOrder() {
-        HearingDesk x = desk(3);
+        HearingDesk x = Desks.fitOnes(3);
         x.hearing(0, 0, 60, 60, 0, 1, 3);
         x.hearing(0, 0, 60, 60, 0, 1, 3);
         x.hearing(0, 0, 0, 30, 0, 1, 3);
@@ -217,7 +196,7 @@ public final class PlanTest {
     }
 
     private static void seatsAndTurns() {
-        HearingDesk x = desk(2);
+        HearingDesk x = Desks.fitOnes(2);
         x.hearing(0, 0, 0, 100, 0, 1, 3);
         x.hearing(0, 0, 200, 90, 0, 1, 3);
         Due.is("17: ahead of a plan", x.seat(0, 0), NONE);
@@ -256,7 +235,7 @@ public final class PlanTest {
         x.paper(1, 2, 3, 0, 999);
         x.hearing(0, 0, 0, 90, 3, 1, 3);
         Due.is("15: by relay", x.plan(0, false), 0);
-        planned("16: both go", x, 1, 0, 0, 240);
+        Due.planned("16: both go", x, 1, 0, 0, 240);
         Due.is("17: relay's first", x.seat(0, 0), 1);
         Due.is("17: relay's second", x.seat(0, 1), 0);
         Due.is("18: relay, first minute", x.turn(0, 0), 1);
@@ -265,11 +244,11 @@ public final class PlanTest {
         x.plan(0, true);
         Due.is("17: one alone now", x.seat(0, 0), 1);
         Due.is("17: no second now", x.seat(0, 1), NONE);
-        planned("16: the other left", x, 1, 0, 1, 120);
+        Due.planned("16: the other left", x, 1, 0, 1, 120);
     }
 
     private static void journeys() {
-        HearingDesk x = desk(2);
+        HearingDesk x = Desks.fitOnes(2);
         x.way(0, 1, 10);
         x.way(1, 2, 20);
         x.way(0, 2, 40);

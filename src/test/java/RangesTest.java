@@ -22,6 +22,7 @@ public final class RangesTest {
         plans();
         fees();
         asked();
+        looks();
         Due.end();
     }
 
@@ -32,9 +33,9 @@ public final class RangesTest {
                 int[] with = with(at, n);
                 Twins.taken(name + Arrays.toString(with), BUSY, x -> call.on(x, with), refusal);
             }
-            for (int n : new int[] {least - 1, most + 1, Integer.MIN_VALUE, Integer.MAX_VALUE}) {
+            for (int n : outside(least, most)) {
                 int[] with = with(at, n);
-                Twins.refused(name + Arrays.toString(with), BUSY, x -> call.on(x, with), refusal);
+                Twins.unchanged(name + Arrays.toString(with), BUSY, x -> call.on(x, with), refusal);
             }
             return this;
         }
@@ -44,6 +45,14 @@ public final class RangesTest {
             all[at] = n;
             return all;
         }
+    }
+
+    /** Just outside, some way off, what would be inside if bits were lost, and the least and most of all. */
+    private static int[] outside(int least, int most) {
+        int[] all = {least - 1, least - 2, least - 9, most + 1, most + 2, most + 9, least + 256, least + 65536,
+            least - 65536, least + 0x40000000, Integer.MIN_VALUE, Integer.MIN_VALUE + 1, Integer.MAX_VALUE - 9,
+            Integer.MAX_VALUE};
+        return Arrays.stream(all).filter(n -> n < least || n > most).toArray();
     }
 
     private static void townsAndPersons() {
@@ -82,9 +91,9 @@ public final class RangesTest {
         new Ranges("12: cancel", (x, n) -> Twins.bit(x.cancel(n[0], n[1])), NO, 0, 10)
                 .bounds(0, 0, Desks.BUSY_HEARINGS - 1).bounds(1, 0, 100000);
         new Ranges("13: teams", (x, n) -> x.teams(n[0]), NONE, 0).bounds(0, 0, Desks.BUSY_HEARINGS - 1);
-        new Ranges("14: team", (x, n) -> x.team(n[0], n[1], n[2]), NONE, 0, 0, 0)
-                .bounds(0, 0, Desks.BUSY_HEARINGS - 1).bounds(1, 0, 1);
-        new Ranges("14: team of a relay", (x, n) -> x.team(n[0], n[1], n[2]), NONE, 2, 0, 0).bounds(1, 0, 0).bounds(2, 0, 2);
+        Call team = (x, n) -> x.team(n[0], n[1], n[2]);
+        new Ranges("14: team", team, NONE, 0, 0, 0).bounds(0, 0, Desks.BUSY_HEARINGS - 1).bounds(1, 0, 1);
+        new Ranges("14: team of a relay", team, NONE, 2, 0, 0).bounds(1, 0, 0).bounds(2, 0, 2);
     }
 
     private static void plans() {
@@ -104,10 +113,25 @@ public final class RangesTest {
     private static void fees() {
         new Ranges("21: end", (x, n) -> x.end(n[0]), NONE, 0).bounds(0, 0, Desks.ON_TAPE.length());
         Call tells = (x, n) -> x.tells(n[0], n[1]);
-        new Ranges("23: tells", tells, NONE, 0, 0).bounds(0, 0, 999).bounds(1, 0, 5);
-        new Ranges("23: tells a rate", tells, NONE, 0, 11).bounds(0, 0, 999).bounds(1, 11, 15);
+        new Ranges("23: tells", tells, NONE, 0, 0).bounds(0, 0, 999);
+        new Ranges("23: tells a rate", tells, NONE, 0, 11).bounds(0, 0, 999);
+        tellsOfTwoRanges();
         new Ranges("24: fee", (x, n) -> x.fee(n[0], n[1]), NONE, 0, 0)
                 .bounds(0, 0, Desks.BUSY_PERSONS - 1).bounds(1, 0, 999);
+    }
+
+    /** "what 0: least, .. 5: hundredths of late; 10 + g: rate of grade g. NONE .. for another what" */
+    private static void tellsOfTwoRanges() {
+        for (int what : new int[] {0, 5, 11, 15}) {
+            Twins.taken("23: tells " + what, BUSY, x -> x.tells(0, what), NONE);
+        }
+        for (int what : outside(0, 15)) {
+            Twins.unchanged("23: tells " + what, BUSY, x -> x.tells(0, what), NONE);
+        }
+        for (int what = 6; what <= 10; what++) {
+            int between = what;
+            Twins.unchanged("23: tells " + what, BUSY, x -> x.tells(0, between), NONE);
+        }
     }
 
     private static void asked() {
@@ -122,5 +146,23 @@ public final class RangesTest {
         new Ranges("28: refusals", (x, n) -> x.refusals(n[0], n[1]), NONE, 0, 0)
                 .bounds(0, NONE, Desks.BUSY_HEARINGS - 1).bounds(1, 0, 999);
         new Ranges("29: count", (x, n) -> x.count(n[0]), NONE, 0).bounds(0, 0, 7);
+    }
+
+    /** A call that only looks changes nothing when it has something to answer, either. */
+    private static void looks() {
+        Twins.unchanged("7: grade", BUSY, x -> x.grade(1, 3, 5), 3);
+        Twins.unchanged("13: teams", BUSY, x -> x.teams(0), 2);
+        Twins.unchanged("14: team", BUSY, x -> x.team(2, 0, 2), 7);
+        Twins.unchanged("16: planned", BUSY, x -> x.planned(0), 3);
+        Twins.unchanged("17: seat", BUSY, x -> x.seat(1, 1), 1);
+        Twins.unchanged("18: turn", BUSY, x -> x.turn(1, 30), 1);
+        Twins.unchanged("19: journeys", BUSY, x -> x.journeys(2, 999), 0);
+        Twins.unchanged("19: journeys of another day", BUSY, x -> x.journeys(1, 0), 90);
+        Twins.unchanged("21: end of all bytes", BUSY, x -> x.end(12), 12);
+        Twins.unchanged("23: tells", BUSY, x -> x.tells(0, 3), 150);
+        Twins.unchanged("24: fee", BUSY, x -> x.fee(1, 0), 60 + 112 + 27);
+        Twins.unchanged("27: known", BUSY, x -> x.known(0, 7, 4), 2);
+        Twins.unchanged("28: refusals", BUSY, x -> x.refusals(0, 7), 1);
+        Twins.unchanged("29: count", BUSY, x -> x.count(6), 7);
     }
 }

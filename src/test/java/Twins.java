@@ -1,7 +1,7 @@
 import java.util.List;
 import java.util.function.Supplier;
 
-/** Two desks made alike: one gets a call that is refused, and both must answer alike to all that follows. */
+/** Two desks made alike: one gets a call that changes nothing, and both must answer alike to all that follows. */
 final class Twins {
     interface Call {
         long on(HearingDesk x);
@@ -10,8 +10,8 @@ final class Twins {
     private Twins() {
     }
 
-    /** The call answers what is due and leaves the desk as it was. */
-    static void refused(String label, Supplier<HearingDesk> make, Call call, long due) {
+    /** The call answers what is due and leaves the desk as it was: one that is refused, or one that only looks. */
+    static void unchanged(String label, Supplier<HearingDesk> make, Call call, long due) {
         HearingDesk tried = make.get();
         Due.is(label, call.on(tried), due);
         List<String> seen = Looks.at(tried);
