@@ -242,7 +242,7 @@ public final class PeopleEdgesTest {
 
     /** "for one that it is a DIALECT of, 1 less; for one that this is a DIALECT of, 2 less, and so on" */
     private static void lessByDialects() {
-        HearingDesk x = withPersons(1);
+        HearingDesk x = withPersons(2);
         x.dialect(4, 2);
         x.dialect(7, 4);
         x.dialect(8, 4);
@@ -260,6 +260,11 @@ public final class PeopleEdgesTest {
         Due.is("7: a dialect's paper is none for its tongue", x.grade(0, 4, 0), 4);
         Due.is("7: nor for that one's tongue", x.grade(0, 2, 0), 4);
         Due.is("7: nor for a dialect beside it", x.grade(0, 8, 0), 3);
+        x.paper(1, 7, 5, 0, 999);
+        Due.is("7: a dialect's paper alone", x.grade(1, 7, 0), 5);
+        Due.is("7: none for its tongue", x.grade(1, 4, 0), 0);
+        Due.is("7: none for that one's tongue", x.grade(1, 2, 0), 0);
+        Due.is("7: none for a dialect beside it", x.grade(1, 8, 0), 0);
     }
 
     /** "0 without (or below 0)" */
